@@ -83,7 +83,7 @@ public final class MastMove {
     }
 
     public int mast(int x, int y, int power, int feed, boolean high, int channel) {
-        if (!isSender(x, y, power, channel) || (feed != NONE && !land.isMast(feed))) {
+        if (!isFitSender(x, y, power, channel) || (feed != NONE && !land.isMast(feed))) {
             return WRONG;
         }
         if (land.mastCount >= MASTS) {
@@ -101,7 +101,7 @@ public final class MastMove {
     }
 
     public int abroad(int x, int y, int power, int channel, int until) {
-        if (!isSender(x, y, power, channel) || !isWithin(until, 0, WEEKS)) {
+        if (!isFitSender(x, y, power, channel) || !isWithin(until, 0, WEEKS)) {
             return WRONG;
         }
         if (land.abroadCount >= ABROAD) {
@@ -411,7 +411,7 @@ public final class MastMove {
         return isWithin(x, 0, MOST_COORDINATE) && isWithin(y, 0, MOST_COORDINATE);
     }
 
-    private static boolean isSender(int x, int y, int power, int channel) {
+    private static boolean isFitSender(int x, int y, int power, int channel) {
         return isPlace(x, y) && isWithin(power, 1, MOST_POWER) && isWithin(channel, 0, CHANNELS - 1);
     }
 

@@ -11,6 +11,8 @@ public final class ChannelsTest {
         abroadByWeeks();
         backAndOn();
         full();
+        foundByTheLastLook();
+        foundOneLookTooLate();
         CHECK.finish();
     }
 
@@ -94,6 +96,15 @@ public final class ChannelsTest {
         move.plan(2, 0L);
         CHECK.due("0 ahead of 1 and 2", move.channels(), 2);
         channelsAre(move, 2, 0, 0);
+        MastMove high = new MastMove();
+        high.mast(0, 0, 100, NONE, true, 0);
+        high.mast(0, 0, 100, NONE, false, 7);
+        high.area(0, 0, 9, 0, 0);
+        high.aim(0, 1);
+        high.plan(1, 1L);
+        CHECK.due("0 behind 1", high.channels(), 2);
+        channelsAre(high, 0, 1);
+        CHECK.due("looks", high.count(10), 1 + 2);
     }
 
     private static void abroadByWeeks() {
@@ -165,5 +176,50 @@ public final class ChannelsTest {
         move.aim(0, NONE);
         CHECK.due("found again", move.channels(), 1);
         CHECK.due("looks", move.count(10), 10);
+    }
+
+    private static MastMove land(int[][] masts, int[][] areas, int[][] abroad) {
+        MastMove move = new MastMove();
+        for (int[] m : masts) {
+            move.mast(m[0], m[1], 50, NONE, false, m[2]);
+        }
+        for (int[] a : areas) {
+            move.aim(move.area(a[0], a[1], 9, 0, 0), a[2]);
+        }
+        for (int[] s : abroad) {
+            move.abroad(s[0], s[1], 50, s[2], s[3]);
+        }
+        return move;
+    }
+
+    /** A land that was looked for until the last mast's channel was the 20000th look. */
+    private static void foundByTheLastLook() {
+        MastMove move = land(
+            new int[][] {{0, 10, 4}, {23, 17, 6}, {25, 24, 2}, {24, 28, 1}, {5, 10, 3}, {5, 19, 0},
+                {25, 30, 4}, {15, 2, 0}, {14, 2, 7}, {12, 12, 0}},
+            new int[][] {{26, 10, 8}, {7, 9, 1}, {24, 7, 4}, {7, 0, 1}, {8, 5, 1}, {13, 30, 9}, {6, 13, 7},
+                {5, 8, 7}, {14, 8, 1}, {29, 29, 0}, {15, 6, 0}, {13, 13, 5}, {18, 8, 6}},
+            new int[][] {{23, 8, 4, 13}, {23, 2, 11, 35}, {28, 8, 0, 13}, {7, 13, 3, 19}});
+        move.terms(1000, 54);
+        move.plan(1, 0L);
+        CHECK.due("found by look 20000", move.channels(), 9);
+        CHECK.due("looks", move.count(10), 20000);
+        CHECK.due("go()", move.go(), 1);
+    }
+
+    /** A land that was looked for until one look more would have found the last mast's channel. */
+    private static void foundOneLookTooLate() {
+        MastMove move = land(
+            new int[][] {{22, 19, 10}, {20, 8, 3}, {29, 23, 2}, {1, 12, 5}, {12, 4, 7}, {22, 30, 3},
+                {6, 18, 7}, {0, 6, 0}, {18, 6, 11}, {13, 1, 7}},
+            new int[][] {{28, 1, 9}, {17, 13, 6}, {2, 22, 8}, {26, 13, 6}, {11, 11, 6}, {1, 29, 7}, {10, 18, 5},
+                {6, 0, 9}, {19, 16, 4}, {10, 7, 6}, {26, 17, 3}, {3, 15, 1}, {24, 12, 3}, {20, 5, 7}},
+            new int[][] {{21, 5, 6, 35}, {7, 28, 5, 39}, {0, 28, 0, 14}, {18, 18, 4, 21}});
+        move.terms(1000, 37);
+        move.plan(2, 0L);
+        CHECK.due("full ahead of look 20001", move.channels(), -4);
+        CHECK.due("looks", move.count(10), 20000);
+        CHECK.due("channelOf(0)", move.channelOf(0), NONE);
+        CHECK.due("go()", move.go(), -9);
     }
 }

@@ -9,6 +9,7 @@ public final class LawTest {
         laws();
         faults();
         faultLeavesLaw();
+        manyLaws();
         CHECK.finish();
     }
 
@@ -88,6 +89,10 @@ public final class LawTest {
         fails("give 1;;give 2", 7);
         fails("giv 1", 0);
         fails("gives 1", 0);
+        fails("givea 1", 0);
+        fails("givez 1", 0);
+        fails("zcap 1", 0);
+        fails("hive 1", 0);
         fails("give1 2", 6);
         fails("give 1x", 6);
         fails("give week2", 9);
@@ -154,5 +159,26 @@ public final class LawTest {
         CHECK.due("an empty one", move.law(), 0);
         move.go();
         CHECK.due("gives nothing", move.count(4), 93);
+    }
+
+    private static void manyLaws() {
+        MastMove move = new MastMove();
+        move.mast(0, 0, 100, NONE, false, 0);
+        move.area(0, 0, 1000, 0, 0);
+        move.plan(1, 0L);
+        move.channels();
+        move.deliver(1000);
+        for (int n = 1; n <= 40; n++) {
+            CHECK.due("a law with a cap", Check.law(move, "cap 2;give 1" + "+1".repeat(100)), 2);
+            move.go();
+            CHECK.due("two a week", move.areaOf(0, 3), 2 * n);
+        }
+        CHECK.due("another with a cap", Check.law(move, "cap 3"), 1);
+        CHECK.due("one without", Check.law(move, "give 9;give 8;give 7"), 3);
+        move.go();
+        CHECK.due("nine", move.areaOf(0, 3), 89);
+        CHECK.due("one without", Check.law(move, "give 8"), 1);
+        move.go();
+        CHECK.due("eight", move.areaOf(0, 3), 97);
     }
 }

@@ -101,6 +101,9 @@ public final class PictureTest {
         move.mast(0, 0, 50, NONE, false, 3);
         move.mast(0, 0, 50, NONE, false, 3);
         CHECK.due("the least", move.hurt(0), 2);
+        move.area(0, 0, 60, 0, 0);
+        move.aim(1, 3);
+        CHECK.due("mast 0 is the least", move.hurt(1), 0);
         move.fail(2, true);
         CHECK.due("the next", move.hurt(0), 3);
         move.fail(3, true);
@@ -184,6 +187,9 @@ public final class PictureTest {
         CHECK.due("what it feeds is of no matter", move.blame(1 << 7), 1 << 2);
         CHECK.due("areas 0 and 1", move.blame(3), 3 << 8);
         CHECK.due("one of two", move.blame(1 << 9), NONE);
+        move.aim(1, 9);
+        CHECK.due("another looks there, and more behind it do elsewhere", move.blame(1), NONE);
+        move.aim(1, 8);
         CHECK.due("the other of two", move.blame(1 << 10 | 1), NONE);
         CHECK.due("both", move.blame(3 << 9), 1);
         CHECK.due("areas that look at none", move.blame(31 << 11), 0);

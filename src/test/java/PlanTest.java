@@ -62,6 +62,15 @@ public final class PlanTest {
         CHECK.due("bits above 51 are of no matter", move.plan(1, -1L & ~15L), 4);
         weeksAre(move, 0, 1, 2, 3);
         CHECK.due("bits above 51 give no week", move.plan(3, all), NONE);
+        MastMove one = new MastMove();
+        one.mast(0, 0, 1, NONE, true, 0);
+        CHECK.due("the last week for one", one.plan(1, all & ~(1L << 51)), 52);
+        weeksAre(one, 51);
+        one.plan(1, -1L);
+        one.mast(0, 0, 1, NONE, true, 0);
+        CHECK.due("the last week for two", one.plan(1, all & ~(1L << 51)), NONE);
+        CHECK.due("the last week for two crews", one.plan(2, all & ~(1L << 51)), 52);
+        weeksAre(one, 51, 51);
     }
 
     private static void channelsAreGone() {

@@ -97,6 +97,9 @@ public final class RowsTest {
         move.row(2, 1, 6);
         CHECK.due("another row", move.paste(0, 0, 2, 1, 3), 0);
         rowIs(move, 2, 0, 2, 3, 4, 0);
+        CHECK.due("a row anew", move.row(2, 1, 6), 0);
+        rowIs(move, 2, 0, 0, 0, 0, 0);
+        move.paste(0, 0, 2, 1, 3);
         CHECK.due("no numbers", move.paste(0, 5, 2, 6, 0), 0);
         rowIs(move, 2, 0, 2, 3, 4, 0);
         rowIs(move, 0, 2, 3, 4, 3, 4);

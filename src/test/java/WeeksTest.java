@@ -8,6 +8,7 @@ public final class WeeksTest {
         allWeeks();
         mastsBecomeNew();
         values();
+        boxesAsTheyAre();
         firstGiveThatHolds();
         limits();
         stockAsItIsThen();
@@ -121,7 +122,23 @@ public final class WeeksTest {
         gives("9+" + least + "/(0-1)/" + big, 7);
         gives("9+(" + least + "+1)/(0-1)/" + big, 10);
         gives("0-" + least + "/" + big, 2);
+        String deep = "1+1*(".repeat(8) + "1+1*9" + ")".repeat(8);
+        gives(deep, 17 + 1);
+        gives("5 if 18=" + deep + " and 19>" + deep + " and " + deep + "<19", 5);
         gives("1 if " + least + "<0 and " + big + ">0 and " + big + "*4=0", 1);
+    }
+
+    private static void boxesAsTheyAre() {
+        MastMove move = ready(100);
+        Check.law(move, "give boxes+3 if boxes<9");
+        int[] due = {3, 9, 9};
+        for (int week = 0; week < 3; week++) {
+            move.go();
+            CHECK.due("boxes behind week " + week, move.areaOf(0, 3), due[week]);
+        }
+        Check.law(move, "give week*10-boxes");
+        move.go();
+        CHECK.due("boxes behind week 3", move.areaOf(0, 3), 9 + 21);
     }
 
     private static void firstGiveThatHolds() {
