@@ -110,6 +110,9 @@ public final class FuzzTest {
         if (odd == 1) {
             return to + 1;
         }
+        if (odd == 2 && random.nextInt(4) == 0) {
+            return random.nextBoolean() ? Integer.MIN_VALUE : Integer.MAX_VALUE;
+        }
         return from + random.nextInt(to - from + 1);
     }
 
@@ -129,7 +132,7 @@ public final class FuzzTest {
 
     private void area(int spread) {
         int homes = random.nextInt(5) == 0 ? within(0, 100000) : within(0, 300);
-        int most = Math.max(homes, 0);
+        int most = Math.min(Math.max(homes, 0), 100000);
         one("area", within(0, spread), within(0, spread), homes, within(0, most), within(0, most));
     }
 
