@@ -27,6 +27,37 @@ final class Check {
         }
     }
 
+    /** For sentences that say that nothing happens: all that can be asked is as it was. */
+    void same(String call, String before, MastMove move) {
+        String now = seen(move);
+        if (!now.equals(before)) {
+            System.out.println(test + ": " + call + " left " + now + ", it was " + before);
+        }
+        due(call + " changes nothing", now.equals(before), true);
+    }
+
+    /** All that can be asked of an object without changing it; some 230 calls for a full land. */
+    static String seen(MastMove move) {
+        StringBuilder text = new StringBuilder("counts");
+        for (int what = 0; what <= 10; what++) {
+            text.append(' ').append(move.count(what));
+        }
+        text.append(" fault ").append(move.fault());
+        for (int m = 0; m < move.count(1); m++) {
+            text.append("; mast ").append(move.weekOf(m)).append(' ').append(move.channelOf(m));
+            for (int what = 0; what <= 7; what++) {
+                text.append(' ').append(move.mastOf(m, what));
+            }
+        }
+        for (int a = 0; a < move.count(3); a++) {
+            text.append("; area ").append(move.picture(a)).append(' ').append(move.hurt(a));
+            for (int what = 0; what <= 5; what++) {
+                text.append(' ').append(move.areaOf(a, what));
+            }
+        }
+        return text.toString();
+    }
+
     /** Feeds a text to the tape, which must be empty, and cuts it to the text's length. */
     static void type(MastMove move, String text) {
         int[] five = new int[5];

@@ -265,7 +265,7 @@ public final class FuzzTest {
         String call = name + Arrays.toString(values);
         calls.add(call);
         long want = model.call(name, values);
-        long got = ask(name, values);
+        long got = ask(move, name, values);
         if (got != want) {
             isWrong = true;
             System.out.println("seed " + seed + ", call " + calls.size() + ": " + calls);
@@ -273,7 +273,8 @@ public final class FuzzTest {
         check.due(call, got, want);
     }
 
-    private long ask(String name, long[] v) {
+    /** Calls by name, as the model does. */
+    static long ask(MastMove move, String name, long[] v) {
         int a = v.length > 0 ? (int) v[0] : 0;
         int b = v.length > 1 ? (int) v[1] : 0;
         int c = v.length > 2 ? (int) v[2] : 0;
